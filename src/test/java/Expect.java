@@ -1,0 +1,64 @@
+/** Counts the answers that are not as due. */
+final class Expect {
+    private static int asked;
+    private static int wrong;
+
+    private Expect() {
+    }
+
+    interface Call {
+        long answer();
+    }
+
+    static void due(String what, long got, long want) {
+        tell(got == want, what + " answered " + got + ", due is " + want);
+    }
+
+    static void dueDouble(String what, double got, double want) {
+        tell(got == want, what + " answered " + got + ", due is " + want);
+    }
+
+    static void dueText(String what, String got, String want) {
+        tell(got.equals(want), what + " answered " + got + ", due is " + want);
+    }
+
+    static void index(String what, Call call) {
+        thrown(what, call, IndexOutOfBoundsException.class);
+    }
+
+    static void argument(String what, Call call) {
+        thrown(what, call, IllegalArgumentException.class);
+    }
+
+    static void state(String what, Call call) {
+        thrown(what, call, IllegalStateException.class);
+    }
+
+    private static void thrown(String what, Call call, Class<? extends RuntimeException> want) {
+        String got;
+        try {
+            got = Long.toString(call.answer());
+        } catch (RuntimeException e) {
+            got = e.getClass().getName();
+        }
+        tell(got.equals(want.getName()), what + " answered " + got + ", due is " + want.getName());
+    }
+
+    private static void tell(boolean right, String message) {
+        asked++;
+        if (!right) {
+            wrong++;
+            if (wrong <= 50) {
+                System.out.println(message);
+            }
+        }
+    }
+
+    /** Ends the test: with exit code 1 if an answer was wrong, or if nothing was asked. */
+    static void end() {
+        System.out.println(asked + " answers, " + wrong + " wrong");
+        if (wrong != 0 || asked == 0) {
+            System.exit(1);
+        }
+    }
+}

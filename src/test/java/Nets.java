@@ -1,0 +1,63 @@
+/** Networks that several tests use. */
+final class Nets {
+    private Nets() {
+    }
+
+    /** A network from a text, by append() and parse(). */
+    static IntervalRouter of(String text) {
+        IntervalRouter x = new IntervalRouter();
+        write(x, text);
+        if (x.parse() < 0) {
+            throw new IllegalArgumentException("a bad text in a test: " + text);
+        }
+        return x;
+    }
+
+    static void write(IntervalRouter x, String text) {
+        x.clearText();
+        for (int i = 0; i < text.length(); i++) {
+            x.append(text.charAt(i));
+        }
+    }
+
+    /** 16 links among 7 nodes. */
+    static IntervalRouter full() {
+        IntervalRouter x = new IntervalRouter();
+        x.begin(7);
+        for (int u = 0; u < 7; u++) {
+            for (int v = u + 1; v < 7 && x.size(true) < 16; v++) {
+                x.addLink(u, v, 1 + (u + v) % 9);
+            }
+        }
+        return x;
+    }
+
+    static String labels(IntervalRouter x) {
+        StringBuilder out = new StringBuilder();
+        for (int v = 0; v < x.size(false); v++) {
+            out.append(x.label(v));
+        }
+        return out.toString();
+    }
+
+    /** The entries of a node in the order of the labels; a dot is NONE. */
+    static String table(IntervalRouter x, int v) {
+        StringBuilder out = new StringBuilder();
+        for (int label = 0; label < x.size(false); label++) {
+            int link = x.entry(v, label);
+            out.append(link == IntervalRouter.NONE ? "." : Integer.toString(link, 16));
+        }
+        return out.toString();
+    }
+
+    static boolean allNone(IntervalRouter x) {
+        for (int v = 0; v < x.size(false); v++) {
+            for (int label = 0; label < x.size(false); label++) {
+                if (x.entry(v, label) != IntervalRouter.NONE) {
+                    return false;
+                }
+            }
+        }
+        return true;
+    }
+}
