@@ -6,8 +6,10 @@ import java.util.Random;
 
 /** Long runs of calls, chosen by a fixed seed, on IntervalRouter and on Model: the answers must be the same. */
 public final class ModelTest {
-    private static final int RUNS = 400;
-    private static final int CALLS = 220;
+    private static final int RUNS = 500;
+
+    /** What an object answers after its 512th call is free. */
+    private static final int CALLS = 512;
 
     /** The name of a call, a letter for each argument (see argument()), and how often it is chosen. */
     private static final String[][] CALLS_AND_ARGUMENTS = {
@@ -27,6 +29,7 @@ public final class ModelTest {
     private final Map<String, Method> model = new HashMap<>();
     private int nodes;
     private int links;
+    private int calls;
 
     private ModelTest(long seed) {
         random = new Random(seed);
@@ -54,8 +57,13 @@ public final class ModelTest {
         IntervalRouter x = new IntervalRouter();
         Model m = new Model();
         int largest = 2 + run % 8;
+        calls = 0;
         both(run, x, m, "begin", new Object[] {1 + random.nextInt(largest)});
-        for (int i = 0; i < CALLS; i++) {
+        if (run % 5 == 0) {
+            addMany(run, x, m);
+        }
+        // a text of 70 bytes and one call more, with its digest, must find room
+        while (calls < CALLS - 80) {
             nodes = m.size(false);
             links = m.size(true);
             if (random.nextInt(25) == 0) {
@@ -69,7 +77,18 @@ public final class ModelTest {
                 }
             }
             both(run, x, m, call[0], arguments(call[1], largest));
-            Expect.due("run " + run + ": digest() after " + call[0], x.digest(), m.digest());
+            both(run, x, m, "digest", new Object[0]);
+        }
+    }
+
+    /** Dense networks, up to 16 links: single calls of addLink() come there too seldom. */
+    private void addMany(int run, IntervalRouter x, Model m) {
+        both(run, x, m, "begin", new Object[] {6 + random.nextInt(4)});
+        int wanted = 10 + random.nextInt(7);
+        for (int i = 0; i < 60 && m.size(true) < wanted; i++) {
+            int u = random.nextInt(m.size(false));
+            int v = random.nextInt(m.size(false));
+            both(run, x, m, "addLink", new Object[] {u, v, 1 + random.nextInt(3)});
         }
     }
 
@@ -173,6 +192,7 @@ public final class ModelTest {
     }
 
     private void both(int run, IntervalRouter x, Model m, String name, Object[] arguments) {
+        calls++;
         String what = "run " + run + ": " + name + java.util.Arrays.toString(arguments);
         Expect.dueText(what, answer(real.get(name), x, arguments), answer(model.get(name), m, arguments));
     }

@@ -32,6 +32,20 @@ final class Nets {
         return x;
     }
 
+    /** From 0 to 8 over each of the nodes 1 to 7, and over link 7 at once, all with the length 2. */
+    static IntervalRouter eightWays() {
+        IntervalRouter x = new IntervalRouter();
+        x.begin(9);
+        for (int v = 1; v < 8; v++) {
+            x.addLink(0, v, 1);
+        }
+        x.addLink(0, 8, 2);
+        for (int v = 1; v < 8; v++) {
+            x.addLink(v, 8, 1);
+        }
+        return x;
+    }
+
     static String labels(IntervalRouter x) {
         StringBuilder out = new StringBuilder();
         for (int v = 0; v < x.size(false); v++) {
