@@ -2,12 +2,34 @@
 final class Expect {
     private static int asked;
     private static int wrong;
+    private static String about = "";
 
     private Expect() {
     }
 
     interface Call {
         long answer();
+    }
+
+    /** Names what the following calls are about; it stands before each message. */
+    static void about(String what) {
+        about = what;
+    }
+
+    static int asked() {
+        return asked;
+    }
+
+    static int wrong() {
+        return wrong;
+    }
+
+    static void yes(String what, boolean holds) {
+        tell(holds, what + " does not hold");
+    }
+
+    static void fail(String what) {
+        tell(false, what);
     }
 
     static void due(String what, long got, long want) {
@@ -34,7 +56,14 @@ final class Expect {
         thrown(what, call, IllegalStateException.class);
     }
 
-    private static void thrown(String what, Call call, Class<? extends RuntimeException> want) {
+    /** The call throws the exception, and nothing that digest() sees has changed by it. */
+    static void refused(String what, IntervalRouter x, Class<? extends RuntimeException> want, Call call) {
+        long before = x.digest();
+        thrown(what, call, want);
+        due(what + ", refused, then digest()", x.digest(), before);
+    }
+
+    static void thrown(String what, Call call, Class<? extends RuntimeException> want) {
         String got;
         try {
             got = Long.toString(call.answer());
@@ -49,7 +78,7 @@ final class Expect {
         if (!right) {
             wrong++;
             if (wrong <= 50) {
-                System.out.println(message);
+                System.out.println(about.isEmpty() ? message : about + ": " + message);
             }
         }
     }

@@ -1,6 +1,21 @@
 /** Networks that several tests use. */
 final class Nets {
+    /** 7 nodes with 16 links; the last one joins 3 and 4. */
+    static final String SIXTEEN_OF_SEVEN =
+            "7;012;023;034;045;056;067;124;135;146;157;168;236;247;258;269;348";
+
     private Nets() {
+    }
+
+    /** A text with 9 nodes and 16 links, 65 bytes; the last one joins 2 and 3. */
+    static String sixteen() {
+        StringBuilder out = new StringBuilder("9");
+        for (int u = 0; u < 2; u++) {
+            for (int v = u + 1; v < 9; v++) {
+                out.append(';').append(u).append(v).append(1);
+            }
+        }
+        return out.append(";231").toString();
     }
 
     /** A network from a text, by append() and parse(). */
@@ -20,16 +35,8 @@ final class Nets {
         }
     }
 
-    /** 16 links among 7 nodes. */
     static IntervalRouter full() {
-        IntervalRouter x = new IntervalRouter();
-        x.begin(7);
-        for (int u = 0; u < 7; u++) {
-            for (int v = u + 1; v < 7 && x.size(true) < 16; v++) {
-                x.addLink(u, v, 1 + (u + v) % 9);
-            }
-        }
-        return x;
+        return of(SIXTEEN_OF_SEVEN);
     }
 
     /** From 0 to 8 over each of the nodes 1 to 7, and over link 7 at once, all with the length 2. */

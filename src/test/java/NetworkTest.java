@@ -190,7 +190,8 @@ public final class NetworkTest {
         Expect.due("9: eight of eight", Nets.eightWays().goodLinks(0, 8), 0b11111111);
         Expect.due("9: eight of eight, from the other end", Nets.eightWays().goodLinks(8, 0), 0b111111110000000);
         IntervalRouter full = Nets.full();
-        Expect.due("9: the last link", full.goodLinks(3, 5) >> 15, full.distance(3, 5) == full.link(15, 2) ? 1 : 0);
+        // 3 - 4 costs 8; over 0 it would be 9
+        Expect.due("9: the last link", full.goodLinks(3, 4), 1 << 15);
     }
 
     private static void kind() {

@@ -105,25 +105,15 @@ public final class TextTest {
         errorAt("" + (char) 127, 0);
     }
 
-    private static String sixteen() {
-        StringBuilder out = new StringBuilder("9");
-        for (int u = 0; u < 2; u++) {
-            for (int v = u + 1; v < 9; v++) {
-                out.append(';').append(u).append(v).append(1);
-            }
-        }
-        return out.append(";231").toString();
-    }
-
     private static void seventeenLinks() {
-        Expect.due("37: 16 links", Nets.of(sixteen()).size(true), 16);
-        errorAt(sixteen() + ";", 66);
-        errorAt(sixteen() + ";2", 66);
-        errorAt(sixteen() + ";241", 66);
-        errorAt(sixteen() + ";9", 66);
-        errorAt(sixteen() + ":", 65);
+        Expect.due("37: 16 links", Nets.of(Nets.sixteen()).size(true), 16);
+        errorAt(Nets.sixteen() + ";", 66);
+        errorAt(Nets.sixteen() + ";2", 66);
+        errorAt(Nets.sixteen() + ";241", 66);
+        errorAt(Nets.sixteen() + ";9", 66);
+        errorAt(Nets.sixteen() + ":", 65);
         IntervalRouter x = Nets.of("1");
-        Nets.write(x, sixteen() + ";241;251;261;271;281;341;351;36");
+        Nets.write(x, Nets.sixteen() + ";241;251;261;271;281;341;351;36");
         while (x.append(';') < 100) {
             // filled to the brim
         }
