@@ -394,6 +394,10 @@ final class DescribedTables {
         IntervalRouter y = Nets.of("6;051;011;031;521;321;141");
         y.makeTables();
         Expect.dueText("a run of link 0 costs as much as one of another link", Nets.table(y, 0), ".12210");
+        // label 1 over 0 or 1, 2 over 1, 3 over 0, 4 over 2
+        IntervalRouter w = Nets.of("5;031;021;041;311;211");
+        w.makeTables();
+        Expect.dueText("the first label has not the lowest link at any price", Nets.table(w, 0), ".1102");
         // label 6 over 6 or 7, 7 over each of the eight links, 8 over 7: the last one of eight makes one run of three
         IntervalRouter z = Nets.of("9;083;011;021;031;041;051;062;071;182;282;382;482;582;681;782;761");
         z.swapLabels(7, 8);

@@ -84,10 +84,14 @@ final class DescriptionSentences {
     private static void all512Calls() {
         IntervalRouter x = new IntervalRouter();
         Expect.due("call 1", x.begin(9), 0);
-        for (int call = 2; call <= 511; call++) {
+        for (int call = 2; call <= 508; call++) {
             Expect.due("call " + call, x.turn(1), (call - 1) % 9);
         }
-        Expect.due("call 512", x.undo(), 3);
+        // 507 turns are 56 times around and 3 more
+        Expect.due("call 509", x.undo(), 3);
+        Expect.due("call 510", x.label(0), 2);
+        Expect.due("call 511", x.undo(), 2);
+        Expect.due("call 512", x.label(0), 1);
     }
 
     private static void none() {
@@ -584,9 +588,7 @@ final class DescriptionSentences {
             x.shuffle(4);
             x.makeTables();
             x.setRange(1, -1, 5, 2);
-            while (x.append('x') < 100) {
-                // a full text
-            }
+            Nets.lengthen(x, 65, 100);
         }, DescriptionSentences::allRefusals);
         Twins.leaveNoTrace("0", x -> x.begin(0), x -> threw(() -> x.turn(0), STATE));
         Twins.leaveNoTrace("0", IntervalRouter::undo, x -> threw(x::undo, STATE));
@@ -594,9 +596,7 @@ final class DescriptionSentences {
 
     private static void severalExceptions() {
         IntervalRouter x = Nets.of(Nets.SIXTEEN_OF_SEVEN);
-        while (x.append('x') < 100) {
-            // a full text
-        }
+        Nets.lengthen(x, 65, 100);
         threw(() -> x.addLink(7, 7, 1), INDEX);
         threw(() -> x.addLink(0, 7, 0), INDEX);
         threw(() -> x.addLink(-1, 6, 1), INDEX);

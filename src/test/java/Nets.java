@@ -28,6 +28,13 @@ final class Nets {
         return x;
     }
 
+    /** Makes a text longer, up to a length. */
+    static void lengthen(IntervalRouter x, int from, int to) {
+        for (int length = from; length < to; length++) {
+            x.append('x');
+        }
+    }
+
     static void write(IntervalRouter x, String text) {
         x.clearText();
         for (int i = 0; i < text.length(); i++) {

@@ -10,8 +10,8 @@ final class SearchSentences {
     private static final String LINE = "5;131;301;021;241";
 
     /**
-     * 0, 2 and 4 are joined, with 2 - 4 as long as the way over 0; 1 and 3 are apart. With all labelings the compactness
-     * is 1; the size is 4 if the labels of 0, 2 and 4 are next to one another, and else 5 or 6.
+     * 0, 2 and 4 are joined, with 2 - 4 as long as the way over 0; 1 and 3 are apart. With all labelings the
+     * compactness is 1; the size is 4 if the labels of 0, 2 and 4 are next to one another, and else 5 or 6.
      */
     private static final String THREE = "5;243;202;041";
 
@@ -191,7 +191,8 @@ final class SearchSentences {
         Expect.due("up to 1", x.labelings(1), 80);
         Expect.due("up to 2", x.labelings(2), 120);
         for (int limit = 0; limit <= 3; limit++) {
-            Expect.due("a varied network, up to " + limit, Nets.of(VARIED).labelings(limit), countByHand(VARIED, limit));
+            int due = countByHand(VARIED, limit);
+            Expect.due("a varied network, up to " + limit, Nets.of(VARIED).labelings(limit), due);
         }
     }
 

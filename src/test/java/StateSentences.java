@@ -50,6 +50,10 @@ final class StateSentences {
         Expect.dueText("the table before makeTables()", Nets.table(x, 1), "....");
         x.undo();
         Expect.due("nodes before parse()", x.size(false), 0);
+        IntervalRouter y = Nets.of("3;011;121");
+        y.setLength(0, 9);
+        y.undo();
+        Expect.due("a distance before setLength()", y.distance(0, 2), 2);
     }
 
     private static void removedState() {
@@ -151,9 +155,7 @@ final class StateSentences {
         Expect.due("one byte", x.digest(), hash(1, 0, 0, 0, 0, 0, 0, 0, 0, 0, 0, 0));
         x.append('y');
         Expect.due("two bytes", x.digest(), hash(2, 0, 0, 0, 0, 0, 0, 0, 0, 0, 0, 0));
-        while (x.append('z') < 100) {
-            // up to 100
-        }
+        Nets.lengthen(x, 2, 100);
         Expect.due("100 bytes", x.digest(), hash(100, 0, 0, 0, 0, 0, 0, 0, 0, 0, 0, 0));
         x.clearText();
         Expect.due("no bytes", x.digest(), hash(new int[12]));
@@ -284,10 +286,15 @@ final class StateSentences {
     }
 
     private static void overflow() {
-        IntervalRouter x = Nets.of(Nets.sixteen());
-        x.shuffle(77);
-        x.makeTables();
-        Expect.due("9 nodes with 16 links", x.digest(), hashOf(x, 65, 3));
+        int negative = 0;
+        for (int seed = 0; seed < 8; seed++) {
+            IntervalRouter x = Nets.of(Nets.sixteen());
+            x.shuffle(seed);
+            x.makeTables();
+            Expect.due("9 nodes with 16 links, seed " + seed, x.digest(), hashOf(x, 65, 3));
+            negative += x.digest() < 0 ? 1 : 0;
+        }
+        Expect.yes("that hashes have both signs", negative > 0 && negative < 8);
         // twelve factors 31 alone are beyond 2^63
         Expect.yes("that the sum was too large", BigInteger.valueOf(3083).multiply(BigInteger.valueOf(31).pow(12))
                 .bitLength() > 63);

@@ -72,9 +72,7 @@ final class TextSentences {
 
     private static void fullText() {
         IntervalRouter x = Nets.of(Nets.sixteen());
-        while (x.append(';') < 99) {
-            // up to 99
-        }
+        Nets.lengthen(x, 65, 99);
         Expect.due("byte 100", x.append(';'), 100);
         Expect.refused("byte 101", x, STATE, () -> x.append(';'));
         Expect.refused("byte 101, the lowest", x, STATE, () -> x.append(0));

@@ -114,9 +114,7 @@ public final class TextTest {
         errorAt(Nets.sixteen() + ":", 65);
         IntervalRouter x = Nets.of("1");
         Nets.write(x, Nets.sixteen() + ";241;251;261;271;281;341;351;36");
-        while (x.append(';') < 100) {
-            // filled to the brim
-        }
+        Nets.lengthen(x, 96, 100);
         Expect.due("37: a full text", x.parse(), -76);
     }
 

@@ -33,7 +33,7 @@ final class Twins {
     private static String seen(IntervalRouter x) {
         StringBuilder out = new StringBuilder();
         boolean more = true;
-        while (more) {
+        for (int i = 0; i < 6 && more; i++) {
             out.append(x.digest()).append(' ').append(ways(x)).append('\n');
             more = steppedBack(x);
         }
