@@ -323,8 +323,10 @@ public final class IntervalRouter {
         double greatest = 0.0;
         for (int v = 0; v < state.nodes; v++) {
             for (int w = 0; w < state.nodes; w++) {
-                if (v != w && arrives(v, w, NONE)) {
-                    double quotient = (double) letter.wayLength / (double) ways.between(v, w);
+                int shortest = ways.between(v, w);
+                // 0 is the distance of the same node alone
+                if (shortest > 0 && arrives(v, w, NONE)) {
+                    double quotient = (double) letter.wayLength / (double) shortest;
                     greatest = quotient > greatest ? quotient : greatest;
                 }
             }
@@ -800,7 +802,7 @@ public final class IntervalRouter {
             int pair = v * MAX_NODES + w;
             int set = 0;
             int count = 0;
-            for (int link = 0; link < state.links; link++) {
+            for (int link = 0; link < state.links && count < MAX_DEGREE; link++) {
                 if (begins(state, link, v, w)) {
                     set |= 1 << link;
                     choices[pair * MAX_DEGREE + count] = link;
@@ -1067,7 +1069,9 @@ public final class IntervalRouter {
 
         /** The trials come in lexicographic order, so only a better one takes the place of the best. */
         private void note(int nodes) {
-            tally[trialCompactness]++;
+            if (trialCompactness <= MAX_LIMIT) {
+                tally[trialCompactness]++;
+            }
             boolean better = trialCompactness < leastCompactness
                     || trialCompactness == leastCompactness && trialSize < leastSize;
             if (better) {

@@ -112,6 +112,10 @@ public final class FaceTest {
                 publicNames.add(method.getName());
             }
         }
+        for (Method method : type.getDeclaredMethods()) {
+            boolean hidden = Modifier.isPrivate(method.getModifiers());
+            Expect.due(method + " bears a public name", hidden && publicNames.contains(method.getName()) ? 1 : 0, 0);
+        }
         Class<?>[] all = type.getDeclaredClasses();
         Expect.due("at most twelve classes", all.length <= 11 ? 1 : 0, 1);
         for (Class<?> one : all) {
